@@ -69,9 +69,9 @@ public final class MirrorLies {
     private static final int NIGHTFALL = 4;
 
     private final Tape tape = new Tape();
-    private final Reader reader = new Reader(tape);
     private final School school = new School();
     private final School draft = new School();
+    private final Reader reader = new Reader(tape, draft);
     private final Hour now = new Hour();
     private final Hour ahead = new Hour();
     private final Acts acts = new Acts(school, now);
@@ -112,7 +112,7 @@ public final class MirrorLies {
     }
 
     public int school() {
-        if (!reader.reads(draft)) {
+        if (!reader.readsAll()) {
             return NONE;
         }
         school.take(draft);
@@ -246,7 +246,7 @@ public final class MirrorLies {
         if (!hasBoy(boy) || !hasMirror(mirror)) {
             return NONE;
         }
-        panes.goRound(now.faces[boy], panes.row(mirror), null);
+        panes.goRound(now.faces[boy], panes.row(mirror), panes.row(mirror), false);
         return oneOf(what, panes.firstTurn, panes.fewerTurns);
     }
 
@@ -254,7 +254,7 @@ public final class MirrorLies {
         if (!hasBoy(boy) || !hasMirror(mirror) || !hasMirror(other)) {
             return NONE;
         }
-        panes.goRound(now.faces[boy], panes.row(mirror), panes.row(other));
+        panes.goRound(now.faces[boy], panes.row(mirror), panes.row(other), true);
         return oneOf(what, panes.firstTurn, panes.fewerTurns);
     }
 
@@ -456,10 +456,11 @@ public final class MirrorLies {
         if (!hasMirror(mirror)) {
             return NONE;
         }
+        int[] row = panes.row(mirror);
         int best = 0;
         int least = NONE;
         for (int face = 0; face < school.faceCount(); face++) {
-            panes.goRound(face, panes.row(mirror), null);
+            panes.goRound(face, row, row, false);
             if (panes.fewerTurns > best) {
                 best = panes.fewerTurns;
                 least = face;
@@ -869,18 +870,18 @@ public final class MirrorLies {
         private final Tape tokens;
         private final long[] boyNames = new long[BOY_LIMIT];
         private final long[] mirrorNames = new long[MIRROR_LIMIT];
-        private School school;
+        private final School school;
         private boolean drawTold;
         private int unitsInOne;
         int fault;
         int place = NONE;
 
-        Reader(Tape tape) {
+        Reader(Tape tape, School draft) {
             tokens = tape;
+            school = draft;
         }
 
-        boolean reads(School target) {
-            school = target;
+        boolean readsAll() {
             school.clear();
             drawTold = false;
             fault = 0;
@@ -1199,7 +1200,12 @@ public final class MirrorLies {
         }
 
         int firstOf(int face) {
-            return face == 0 ? width : Integer.numberOfTrailingZeros(face);
+            for (int mark = 0; mark < width; mark++) {
+                if ((face >> mark & 1) != 0) {
+                    return mark;
+                }
+            }
+            return width;
         }
 
         int priceOf(int set) {
@@ -1216,7 +1222,7 @@ public final class MirrorLies {
             if (dusty >= BLIND_DUST) {
                 return NONE;
             }
-            int mark = worth(mirror, face, day, dusty);
+            int mark = worth(mirror, day, Integer.bitCount(face), firstOf(face), dusty);
             if (mark < 0 || mark >= width) {
                 return NONE;
             }
@@ -1228,9 +1234,7 @@ public final class MirrorLies {
             return changed & sees[mirror];
         }
 
-        private int worth(int mirror, int face, int day, int dusty) {
-            int many = Integer.bitCount(face);
-            int first = firstOf(face);
+        private int worth(int mirror, int day, int many, int first, int dusty) {
             int depth = 0;
             for (int i = begin[mirror]; i < begin[mirror + 1]; i++) {
                 int step = code[i];
@@ -1493,8 +1497,8 @@ public final class MirrorLies {
             return true;
         }
 
-        /** How images of images come round: each turn goes through one, then through other, if there is one. */
-        void goRound(int face, int[] one, int[] other) {
+        /** How images of images come round: each turn goes through one, or through one and then the other. */
+        void goRound(int face, int[] one, int[] other, boolean both) {
             Arrays.fill(metAt, NONE);
             int seen = face;
             for (int turns = 0; turns <= FACE_LIMIT; turns++) {
@@ -1504,7 +1508,7 @@ public final class MirrorLies {
                     return;
                 }
                 metAt[seen] = turns;
-                seen = other == null ? one[seen] : other[one[seen]];
+                seen = both ? other[one[seen]] : one[seen];
             }
         }
 
