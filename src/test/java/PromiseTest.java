@@ -19,6 +19,7 @@ public final class PromiseTest {
         test.mirrors();
         test.acts();
         test.undone();
+        test.madeAnew();
         test.halls();
         test.nights();
         test.mends();
@@ -252,6 +253,7 @@ public final class PromiseTest {
         worth("(4 < 4) + 4", 4);
         worth("3 > 4", 0);
         worth("3 + 1 > 4 - 1", 1);
+        worth("4 > 4", 0);
         worth("3 = 3", 1);
         worth("2 and 3", 1);
         worth("2 and 0", 0);
@@ -430,6 +432,53 @@ public final class PromiseTest {
         due("16: day", y.about(3), 45);
     }
 
+    /** What is shown goes with each ACT, though images may be kept from one call to the next. */
+    private void madeAnew() {
+        MirrorLies x = Checks.open("marks 3;boy a has 0;mirror m lie day + dusty;");
+        due("17: as told", x.hall(0, 0, -1, -1, -1), 0);
+        x.crack(0, 1);
+        due("13: cracked", x.hall(0, 0, -1, -1, -1), 3);
+        x.undo();
+        due("15: undone", x.hall(0, 0, -1, -1, -1), 0);
+        x.redo();
+        due("16: done again", x.hall(0, 0, -1, -1, -1), 3);
+        x.undo();
+        due("15: undone", x.hall(0, 0, -1, -1, -1), 0);
+        x.night();
+        due("14: a day later", x.hall(0, 0, -1, -1, -1), 3);
+        x.breathe(0);
+        due("11: dusty", x.hall(0, 0, -1, -1, -1), 1);
+        x.wipe(0);
+        due("12: clean", x.hall(0, 0, -1, -1, -1), 3);
+        x.mark(0, 2);
+        due("10: another face", x.hall(0, 0, -1, -1, -1), 7);
+        x.mark(0, 2);
+        x.image(0);
+        x.crack(0, 1);
+        due("13: cracked", x.hall(0, 0, -1, -1, -1), 5);
+        x.back(0);
+        due("56: back", x.hall(0, 0, -1, -1, -1), 3);
+        x.crack(0, 2);
+        Checks.feed(x, "marks 3;boy a has 0;mirror m lie 2;draw 5;");
+        due("4: another school", x.school(), 1);
+        due("4: another school", x.hall(0, 0, -1, -1, -1), 5);
+        due("4: no crack", x.mirror(0, 3), 0);
+        Checks.feed(x, "draw 5;");
+        due("4: draw anew", x.school(), 0);
+        String full = LIE + "1" + "+1".repeat(29) + ";mirror b lie 1" + "+1".repeat(29) + ";mirror c lie 1" + "+1".repeat(29) + ";";
+        for (int i = 0; i < 20; i++) {
+            Checks.feed(x, full);
+            due("4: many schools", x.school(), 3);
+        }
+        MirrorLies old = new MirrorLies();
+        for (int day = 1; day <= 9999; day++) {
+            old.night();
+        }
+        due("14: the last day", old.about(3), 9999);
+        due("14: above", old.night(), NONE);
+        due("14: nothing is done", old.about(3), 9999);
+    }
+
     private void halls() {
         MirrorLies x = Checks.open(FOUR);
         due("17: no mirror", x.hall(0, -1, 9, 9, 9), 1);
@@ -470,7 +519,14 @@ public final class PromiseTest {
         for (int i = 0; i < 5; i++) {
             five.append("mirror ").append((char) ('a' + i)).append(" lie ").append(i).append(';');
         }
-        due("20: four at most", Checks.open(five.toString()).sights(0), 31);
+        MirrorLies all = Checks.open(five.toString());
+        due("20: four at most", all.sights(0), 31);
+        all.breathe(0);
+        all.breathe(0);
+        due("20: fewer then", all.sights(0), 16);
+        due("25: four", all.dream(0, 30), 4);
+        due("41: the last", all.lies(3), 4);
+        due("25: not five", Checks.open(five.toString()).dream(0, 31), NONE);
         due("22: mark", x.moled(0, 0), 1);
         due("22: mirrors", x.moled(0, 1), 2);
         due("22: the first", x.moled(1, 0), 0);
@@ -495,6 +551,15 @@ public final class PromiseTest {
         due("38: one night", Checks.open(LIE + "0 dust 4;draw 1;").dull(), 1);
         // 441 has 4, rest 1; 488 rest 1: two nights for 2 dust more; then 927 none, 70 none, 661, 628 none, 107: 1.
         due("38: three dust", Checks.open(LIE + "0 dust 2;draw 10;").dull(), 7);
+        MirrorLies late = Checks.open("mirror a lie 0;mirror b lie 0;mirror c lie 0;mirror d lie 0 dust 4;"
+            + "mirror e lie 0 dust 4;mirror f lie 0 dust 1;mirror g lie 0;draw 434;");
+        due("38: 200 nights", late.dull(), 200);
+        due("21: 199 nights", late.blind(199) == 127, false);
+        due("21: 200 nights", late.blind(200), 127);
+        // A seed whose rest by 5 is 4 is followed by such ones alone: the other four never get dust.
+        MirrorLies never = Checks.open("mirror a lie 0;mirror b lie 0;mirror c lie 0;mirror d lie 0;mirror e lie 0;draw 4;");
+        due("38: never", never.dull(), NONE);
+        due("21: the fifth", never.blind(200), 16);
         due("38: no mirrors", new MirrorLies().dull(), 0);
         MirrorLies y = Checks.open("mirror a lie 0;mirror b lie 0;draw 0;");
         int due = y.dull();
@@ -530,6 +595,9 @@ public final class PromiseTest {
         MirrorLies y = Checks.open("boy a;" + LIE + "9 * (dusty = 0) dust 1;");
         due("23: wipe", y.mend(0, 0), 1);
         due("41: wipe", y.lies(0), 1);
+        MirrorLies far = Checks.open("marks 8;boy a has 1;" + LIE + "1 sees 1 to 7;");
+        due("23: crack by 7", far.mend(0, 0), 1);
+        due("41: crack by 7", far.lies(0), 17);
     }
 
     private void hangings() {
@@ -574,6 +642,7 @@ public final class PromiseTest {
         due("26: of four", four.hangs(0, 2), 12);
         due("26: too few mirrors", Checks.open("boy a;" + LIE + "9;").hangs(0, 2), 0);
         MirrorLies last = Checks.open("boy a has 0;mirror a lie 0;mirror b lie 1;mirror c lie 0 + 1;mirror d lie 0;");
+        due("26: none twice", last.hangs(0, 2), 4);
         due("24: like ones", last.hang(0), 2);
         due("41: a", last.lies(0), 0);
         due("41: d", last.lies(1), 3);
@@ -629,6 +698,8 @@ public final class PromiseTest {
         due("36: no mirror", x.undoes(4), NONE);
         due("36: one that it isn't", Checks.open("mirror a lie 0;mirror b lie 1;mirror c lie 0;").undoes(0), 5);
         due("37: p", x.longest(0, 0), 1);
+        due("37: least face", x.longest(0, 1), 0);
+        due("37: least face", x.longest(3, 1), 0);
         due("37: s", x.longest(3, 0), 2);
         due("37: another", x.longest(3, 2), NONE);
         due("37: no mirror", x.longest(4, 0), NONE);
@@ -643,6 +714,15 @@ public final class PromiseTest {
         x.breathe(3);
         due("27: blind", x.trues(), 8);
         due("31: blind", x.fixed(3, 0), 8);
+        due("27: the first", Checks.open("mirror a lie 9;mirror b lie 0;mirror c lie 9;").trues(), 5);
+        due("29: the last two", Checks.open("mirror a lie 0;mirror b lie 9;mirror c lie 9;").alike(), 1);
+        MirrorLies first = Checks.open("mirror a lie 0;mirror b lie 1;mirror c lie 0;");
+        due("29: the first", first.alike(), 1);
+        due("41: less", first.lies(0), 0);
+        due("41: greater", first.lies(1), 2);
+        first.crack(0, 2);
+        due("29: none", first.alike(), 0);
+        due("57: nothing lies", first.about(11), 0);
         MirrorLies y = Checks.open("mirror a lie 5;mirror b lie 1 + 1;mirror c lie 2;mirror d lie 2 sees 0 to 4;mirror e lie 2;");
         due("29: twos", y.alike(), 3);
         due("41: less", y.lies(0), 1);
@@ -799,6 +879,11 @@ public final class PromiseTest {
         due("54: none", x.glass(0, 10), 0);
         due("54: none", x.glass(1, 10), 0);
         due("50: no mirrors", new MirrorLies().ask(0, 0), NONE);
+        MirrorLies flat = Checks.open("marks 8;" + LIE + "9 - 9 * (first = 0) sees 0 to 0;");
+        due("50: all alike", flat.ask(0, 0), 0);
+        due("50: all alike", flat.ask(1, 0), 256);
+        due("51: all alike", flat.mean(0, 0, 0), 256);
+        due("51: all alike", flat.mean(0, 1, 0), 1);
         due("50: of like ones the first", Checks.open("mirror a lie 0;mirror b lie 1;").ask(0, 0), 0);
     }
 
@@ -843,6 +928,16 @@ public final class PromiseTest {
         due("52: another", many.course(2, 0), NONE);
         many.look(1, 1);
         due("52: eight of them", many.course(0, 0), 1);
+        // Of the 16 faces 8 have mark 0; of those with one mark 3 that have it not are shown with it, 1 without.
+        MirrorLies ten = Checks.open("marks 4;mirror a lie 4 - 4 * (many = 1) sees 0 to 0;mirror b lie 9;");
+        ten.look(0, 1);
+        due("52: of ten", ten.like(0, 0), 10);
+        due("52: of ten", ten.course(0, 0), 1);
+        due("52: of ten", ten.course(1, 0), 1);
+        MirrorLies eleven = Checks.open("marks 4;mirror a lie 4 * (many > 1) sees 0 to 0;mirror b lie 9;");
+        eleven.look(0, 1);
+        due("52: of eleven", eleven.like(0, 0), 11);
+        due("52: of eleven", eleven.course(0, 0), -2);
         // By what a shows b or c is looked into: b parts 0 and 2 alone, c parts 1 and 3 alone.
         MirrorLies chosen = Checks.open("marks 2;mirror b lie 9 - 8 * (many = 2) sees 1 to 1;"
             + "mirror c lie 9 - 8 * (first = 1) sees 1 to 1;mirror a lie 9 sees 0 to 0;");
