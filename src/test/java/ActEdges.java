@@ -22,6 +22,7 @@ final class ActEdges extends Edges {
         seeds();
         nightsDust();
         fortyKept();
+        fortyStates();
         redone();
         undoneExactly();
         face();
@@ -153,6 +154,8 @@ final class ActEdges extends Edges {
         due(worth("not 1 = 0"), 1);
         due(worth("not 0 + 1"), 0);
         due(worth("not 0 and 0"), 0);
+        due(worth("3 + (not 0)"), 4);
+        due(worth("3 + 2 * (not 7)"), 3);
     }
 
     private void marksOfLies() {
@@ -376,6 +379,33 @@ final class ActEdges extends Edges {
         }
         due(y.about(3), 1);
         due(y.undo(), false);
+    }
+
+    private void fortyStates() {
+        says(TERMS, "40 at most are kept, the oldest go");
+        MirrorLies x = open("marks 3;boy a;" + LIE + "0;draw 417;");
+        String[] states = new String[61];
+        for (int act = 0; act < 60; act++) {
+            states[act] = stateNow(x);
+            switch (act % 6) {
+                case 0: x.mark(0, act % 3); break;
+                case 1: case 3: x.night(); break;
+                case 2: x.breathe(0); break;
+                case 4: x.crack(0, 1 + act % 7); break;
+                default: x.wipe(0); break;
+            }
+        }
+        states[60] = stateNow(x);
+        for (int act = 59; act >= 20; act--) {
+            due(x.undo(), true);
+            due(stateNow(x).equals(states[act]), true);
+        }
+        due(x.undo(), false);
+        for (int act = 21; act <= 60; act++) {
+            due(x.redo(), true);
+            due(stateNow(x).equals(states[act]), true);
+        }
+        due(x.redo(), false);
     }
 
     private void redone() {

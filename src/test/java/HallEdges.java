@@ -9,6 +9,9 @@ final class HallEdges extends Edges {
     private static final String BACK_BY_FOUR = "marks 3;boy a has 0;mirror a lie 1;mirror b lie 2;mirror c lie first % 2;"
         + "mirror d lie first + many sees 2 to 2;";
 
+    // As many FACES as there are one behind another, each with one MARK more or less, and round again.
+    private static final String ROUND_ALL = "(many % 2) * (first + 1 - first / 7)";
+
     HallEdges(Sentences sentences) {
         super(sentences);
     }
@@ -136,6 +139,19 @@ final class HallEdges extends Edges {
             due(x.round(0, mirror, 0), due[mirror][0]);
             due(x.round(0, mirror, 1), due[mirror][1]);
         }
+        MirrorLies all = open("marks 8;boy a has 3;" + LIE + ROUND_ALL + ";mirror b lie 9;");
+        due(all.round(0, 0, 0), 256);
+        due(all.round(0, 0, 1), 256);
+        due(all.facing(0, 0, 1, 0), 256);
+        due(all.facing(0, 0, 1, 1), 256);
+        due(all.facing(0, 0, 0, 0), 128);
+        due(all.facing(0, 0, 0, 1), 128);
+        due(all.longest(0, 0), 256);
+        due(all.longest(0, 1), 0);
+        // Without the way from the last to the first one it stops there.
+        MirrorLies once = open("marks 8;boy a;" + LIE + "(many % 2) * (first + 1);");
+        due(once.round(0, 0, 0), 256);
+        due(once.round(0, 0, 1), 1);
         says(18, "NONE if one can't be");
         for (int what = 0; what <= 1; what++) {
             due(x.round(1, 0, what), NONE);
@@ -190,8 +206,14 @@ final class HallEdges extends Edges {
         due(open(BOY + flips(5)).sights(0), 31);
         due(open(BOY + flips(6)).sights(0), 57);
         due(open("marks 8;" + BOY + flips(8) + "mirror z lie 9;").sights(0), 163);
-        says(20, "NONE if there is no such BOY");
         MirrorLies x = open(BOY + LIE + "0;");
+        due(x.sights(0), 2);
+        x.mark(0, 3);
+        due(x.sights(0), 2);
+        x.breathe(0);
+        x.breathe(0);
+        due(x.sights(0), 1);
+        says(20, "NONE if there is no such BOY");
         due(x.sights(1), NONE);
         due(x.sights(-1), NONE);
         due(x.sights(LEAST), NONE);
@@ -236,6 +258,8 @@ final class HallEdges extends Edges {
         due(x.moled(0, 1), 3);
         due(open(BOY + mirrors(9, "5")).moled(0, 1), 9);
         due(open(BOY + LIE + "0 sees 1 to 2;").moled(0, 0), 0);
+        due(open(BOY + LIE + "3;mirror b lie 9;mirror c lie 9;").moled(0, 0), 3);
+        due(open(BOY + LIE + "3;mirror b lie 9;mirror c lie 9;").moled(0, 1), 1);
         says(22, "NONE if none lies, or one can't be");
         for (int what = 0; what <= 1; what++) {
             due(open(BOY).moled(0, what), NONE);
@@ -638,7 +662,7 @@ final class HallEdges extends Edges {
     private void undoes() {
         says(36, "MIRRORS that show of each IMAGE by one the FACE that it is of, as bits (it, too)");
         MirrorLies x = open("marks 2;mirror a lie 0;mirror b lie many % 2;mirror c lie 1 - many % 2;mirror d lie 9;"
-            + "mirror e lie 9 sees 0 to 0;mirror f lie 0;mirror g lie 9 - 9 * (many = 2);");
+            + "mirror e lie 9 sees 0 to 0;mirror f lie 0;mirror g lie 9 - 9 * (many = 2);mirror h lie " + BUT_THE_FIRST + ";");
         due(x.undoes(0), 33);
         due(x.undoes(1), 4);
         due(x.undoes(2), 2);
@@ -646,10 +670,11 @@ final class HallEdges extends Edges {
         due(x.undoes(4), 0);
         due(x.undoes(5), 33);
         due(x.undoes(6), 0);
+        due(x.undoes(7), 0);
         due(open(mirrors(9, "6")).undoes(8), 511);
         due(open(mirrors(9, "0")).undoes(0), 511);
         says(36, "NONE if there is none such");
-        due(x.undoes(7), NONE);
+        due(x.undoes(8), NONE);
         due(x.undoes(-1), NONE);
         due(x.undoes(LEAST), NONE);
         due(x.undoes(MOST), NONE);
@@ -669,6 +694,10 @@ final class HallEdges extends Edges {
         MirrorLies last = open("marks 8;" + LIE + "9 - 9 * (many > 6 and (many = 8 or first = 1));");
         due(last.longest(0, 0), 2);
         due(last.longest(0, 1), 254);
+        // Only 0 and 1 do.
+        MirrorLies first = open("marks 8;" + LIE + "9 - 9 * (many = 0 or many = 1 and first = 0);");
+        due(first.longest(0, 0), 2);
+        due(first.longest(0, 1), 0);
         says(37, "NONE if one can't be");
         int[] wrong = {6, -1, LEAST, MOST};
         for (int n : wrong) {

@@ -235,6 +235,10 @@ final class LookEdges extends Edges {
         due(x.spread(0, 0), 8);
         due(x.spread(1, 0), 8);
         due(x.spread(0, -1), 0);
+        MirrorLies bare = open("marks 8;" + LIE + "9;");
+        bare.look(0, 0);
+        due(bare.spread(0, 0), 0);
+        due(bare.spread(1, 0), 0);
         says(47, "NONE if there are none, or for another what");
         due(x.spread(2, 0), NONE);
         due(x.spread(-1, 0), NONE);
@@ -292,6 +296,12 @@ final class LookEdges extends Edges {
         eleven.look(0, 1);
         due(eleven.odds(0, 0, 0), 7);
         due(eleven.odds(0, 1, 0), 11);
+        MirrorLies one = open("marks 8;" + LIE + "9;");
+        one.look(0, 2);
+        due(one.odds(1, 0, 0), 1);
+        due(one.odds(1, 1, 0), 1);
+        due(one.odds(7, 0, 0), 0);
+        due(one.odds(7, 1, 0), 1);
         says(49, "NONE if there are none, or one can't be");
         int[] wrong = {8, -1, LEAST, MOST};
         for (int n : wrong) {
@@ -395,6 +405,11 @@ final class LookEdges extends Edges {
         course(open("marks 2;mirror a lie 9 sees 0 to 0;mirror b lie 9 sees 0 to 0;"), NONE, NONE);
         dark.look(0, 0);
         course(dark, NONE, NONE);
+        MirrorLies none = open("marks 3;mirror a lie 9;");
+        course(none, 1, 0);
+        none.look(0, 0);
+        none.look(0, 1);
+        course(none, NONE, NONE);
         int[] wrong = {2, -1, LEAST, MOST};
         for (int n : wrong) {
             due(ten.course(n, 0), NONE);

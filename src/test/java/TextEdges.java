@@ -32,6 +32,7 @@ final class TextEdges extends Edges {
         feed();
         end();
         school();
+        schoolsInTurn();
         schoolRefused();
         fault();
         about();
@@ -555,6 +556,8 @@ final class TextEdges extends Edges {
         x.night();
         x.night();
         x.undo();
+        x.image(0);
+        x.image(1);
         x.image(2);
         x.hang(0);
         return x;
@@ -591,6 +594,29 @@ final class TextEdges extends Edges {
         due(x.school(), 0);
         due(x.about(1), 0);
         due(x.about(2), 6);
+    }
+
+    private void schoolsInTurn() {
+        says(4, "(all as told, day 0");
+        MirrorLies x = open("marks 3;boy a has 0;mirror m lie 2 sees 0 to 1 price 7 dust 3;");
+        due(x.hall(0, 0, NONE, NONE, NONE), 1);
+        Checks.feed(x, "marks 3;boy a has 0;mirror m lie not 1;");
+        due(x.school(), 1);
+        due(x.hall(0, 0, NONE, NONE, NONE), 0);
+        due(x.mirror(0, 0), 7);
+        due(x.mirror(0, 1), 1);
+        due(x.mirror(0, 2), 0);
+        Checks.feed(x, "marks 3;boy a has 0;mirror m lie 1;");
+        due(x.school(), 1);
+        due(x.lie(0, 0), 1);
+        due(x.hall(0, 0, NONE, NONE, NONE), 3);
+        // As many as one object can take, each with all the units that can be.
+        for (int i = 0; i < 20; i++) {
+            Checks.feed(x, mirrors(3, i % 6 + "+0".repeat(29)));
+            due(x.school(), 3);
+            due(x.about(10), 90);
+            due(x.lie(2, 0), i % 6);
+        }
     }
 
     private void schoolRefused() {
