@@ -212,6 +212,10 @@ final class TextEdges extends Edges {
             fault(all + "" + width + ";", 4, all.length());
         }
         fault("boy a has 5 6;", 4, 12);
+        // Beyond the bits of an int, too, it is no MARK that was told already.
+        fault("boy a has 0 32;", 4, 12);
+        fault("boy a has 1 2 33;", 4, 14);
+        fault("boy a has 5 9989;", 4, 12);
         fault("boy a has ;", 2, 10);
         due(open("boy a;").face(0), 0);
         fine("boy a has 3;boy b has 3;");
