@@ -1226,7 +1226,12 @@ public final class MirrorLies {
             if (mark < 0 || mark >= width) {
                 return NONE;
             }
-            return (mark + crack) % width;
+            return fartherOn(mark, crack);
+        }
+
+        /** The MARK so many farther on: behind the last one comes MARK 0 again. */
+        int fartherOn(int mark, int by) {
+            return width > 0 ? (mark + by) % width : 0;
         }
 
         int shown(int mirror, int face, int lie) {
@@ -1431,7 +1436,7 @@ public final class MirrorLies {
                     now.dust[which] = 0;
                     break;
                 case CRACKING:
-                    now.cracks[which] = (now.cracks[which] + by) % school.width;
+                    now.cracks[which] = school.fartherOn(now.cracks[which], by);
                     break;
                 default:
                     now.passNight(school.mirrors);
@@ -1631,7 +1636,7 @@ public final class MirrorLies {
             }
             for (int choice = 0; choice < CHOICES; choice++) {
                 put(choice < 2 ? choice : 10 + crackBy(choice));
-                if (mends(mirror, face, dustBehind(choice, dust), (crack + crackBy(choice)) % school.width, left - 1)) {
+                if (mends(mirror, face, dustBehind(choice, dust), school.fartherOn(crack, crackBy(choice)), left - 1)) {
                     return true;
                 }
                 drop();
