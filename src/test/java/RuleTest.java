@@ -33,7 +33,7 @@ import javax.tools.JavaCompiler;
 import javax.tools.StandardJavaFileManager;
 import javax.tools.ToolProvider;
 
-/** The rules of LANGUAGE.md that want the source's tree and not its text alone: 2, 3, 4, 7, 8, 9 and 11. */
+/** The rules of LANGUAGE.md that want the source's tree: of 2, 3, 4, 7 (divisors), 9 and 11 (depth of calls). */
 public final class RuleTest {
     private static final Path SOURCE = Path.of("src/main/java/MirrorLies.java");
     private static final Set<String> LIBRARY = Set.of("java.lang.String.length", "java.lang.String.charAt",
